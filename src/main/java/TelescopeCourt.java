@@ -50,7 +50,6 @@ public final class TelescopeCourt {
     private final Typing typing;
     private final Graphs graphs;
     private final Machine machine;
-    private final Telescope nothing;
     private final int[] nodes;
     private int laid;
     private long stepsOfRuns;
@@ -63,7 +62,6 @@ public final class TelescopeCourt {
         typing = new Typing(terms, forms, signature, docket);
         graphs = new Graphs(terms);
         machine = new Machine(terms, signature, docket);
-        nothing = new Telescope(0);
         nodes = new int[MOST_NODES];
     }
 
@@ -158,11 +156,11 @@ public final class TelescopeCourt {
     public int typeOf(int node) throws IndexOutOfBoundsException, UnsupportedOperationException {
         int term = termAt(node);
         int mark = terms.mark();
-        return numberOfScratch(mark, typing.formIn(nothing, term));
+        return numberOfScratch(mark, typing.formOf(term));
     }
 
     public int level(int node) throws IndexOutOfBoundsException, UnsupportedOperationException {
-        int found = levelIn(termAt(node));
+        int found = typing.levelOf(termAt(node));
         if (found == NONE) {
             throw new UnsupportedOperationException("the term has no level");
         }
@@ -173,7 +171,7 @@ public final class TelescopeCourt {
         int term = termAt(node);
         int other = termAt(type);
         int mark = terms.mark();
-        int one = typing.formIn(nothing, term);
+        int one = typing.formOf(term);
         int two = forms.formOf(other);
         boolean alike = Moves.same(terms, one, two);
         terms.release(mark);
@@ -186,7 +184,7 @@ public final class TelescopeCourt {
             IllegalStateException {
         int term = termAt(type);
         int mark = terms.mark();
-        int form = levelIn(term) == NONE ? NONE : forms.formOf(term);
+        int form = typing.levelOf(term) == NONE ? NONE : forms.formOf(term);
         int arity = docket.domainsOf(form);
         if (arity < 1 || arity > MOST_ARGUMENTS) {
             terms.release(mark);
@@ -219,7 +217,7 @@ public final class TelescopeCourt {
         int right = termAt(term);
         needOpen(asked);
         int allowed = docket.acceptedOnes | 1 << asked.function;
-        if ((terms.callsOf(right) & ~allowed) != 0 || !typeFits(asked, right)) {
+        if ((terms.callsOf(right) & ~allowed) != 0 || !typing.fits(asked.context, right, asked.type)) {
             throw new UnsupportedOperationException("no right side for this goal");
         }
         asked.fillWith(right);
@@ -239,7 +237,7 @@ public final class TelescopeCourt {
 
     public int reopen(int goal) throws NoSuchElementException, IllegalStateException {
         Goal asked = goalAt(goal);
-        if (asked.state != FILLED || docket.isAccepted(asked.function)) {
+        if (asked.state != FILLED || docket.hasAccepted(asked.function)) {
             throw new IllegalStateException("the goal is not filled, or its function is accepted");
         }
         int answer = terms.sizeOf(asked.right);
@@ -273,7 +271,7 @@ public final class TelescopeCourt {
     public int accept(int function) throws NoSuchElementException, IllegalStateException,
             UnsupportedOperationException {
         Function asked = functionAt(function);
-        if (docket.isAccepted(function) || docket.openOnesOf(function) > 0) {
+        if (docket.hasAccepted(function) || docket.openOnesOf(function) > 0) {
             throw new IllegalStateException("the function is accepted, or has open goals");
         }
         graphs.begin(function, asked.arity);
@@ -289,32 +287,39 @@ public final class TelescopeCourt {
 
     public boolean isAccepted(int function) throws NoSuchElementException {
         functionAt(function);
-        return docket.isAccepted(function);
+        return docket.hasAccepted(function);
     }
 
     // Runs
 
     public int run(int node) throws IndexOutOfBoundsException, UnsupportedOperationException {
+        int term = termAt(node);
         int mark = terms.mark();
-        int answer = numberOfScratch(mark, valueOf(node, true));
+        int value = typing.isOfData(term) ? machine.valueOf(term, true) : NONE;
+        int answer = numberOfScratch(mark, value);
         stepsOfRuns += machine.taken;
         return answer;
     }
 
     public int runByClauses(int node) throws IndexOutOfBoundsException, UnsupportedOperationException {
+        int term = termAt(node);
         int mark = terms.mark();
-        return numberOfScratch(mark, valueOf(node, false));
+        int value = typing.isOfData(term) ? machine.valueOf(term, false) : NONE;
+        return numberOfScratch(mark, value);
     }
 
     public int steps(int node) throws IndexOutOfBoundsException, UnsupportedOperationException {
+        int term = termAt(node);
         int mark = terms.mark();
-        numberOfScratch(mark, valueOf(node, true));
+        int value = typing.isOfData(term) ? machine.valueOf(term, true) : NONE;
+        numberOfScratch(mark, value);
         return machine.taken;
     }
 
     public int valueSize(int node) throws IndexOutOfBoundsException, UnsupportedOperationException {
+        int term = termAt(node);
         int mark = terms.mark();
-        int value = valueOf(node, true);
+        int value = typing.isOfData(term) ? machine.valueOf(term, true) : NONE;
         int whole = terms.sizeOf(value);
         numberOfScratch(mark, value);
         // A value of a data type is constructors, each one but the first joined by an application.
@@ -347,7 +352,7 @@ public final class TelescopeCourt {
     public boolean isSound() {
         for (int i = 0; i < docket.goalCount; i++) {
             Goal one = docket.goal(i);
-            if (one != null && one.state == FILLED && !typeFits(one, one.right)) {
+            if (one != null && one.state == FILLED && !typing.fits(one.context, one.right, one.type)) {
                 return false;
             }
         }
@@ -418,32 +423,6 @@ public final class TelescopeCourt {
             throw new UnsupportedOperationException("there is no such term");
         }
         return answer;
-    }
-
-    private int levelIn(int term) {
-        int mark = terms.mark();
-        int form = typing.formIn(nothing, term);
-        int found = terms.kindOf(form) == UNIVERSE ? terms.firstOf(form) : NONE;
-        terms.release(mark);
-        return found;
-    }
-
-    private boolean typeFits(Goal goal, int right) {
-        int mark = terms.mark();
-        boolean fits = Moves.same(terms, typing.formIn(goal.context, right), goal.type);
-        terms.release(mark);
-        return fits;
-    }
-
-    private int valueOf(int node, boolean bySplits) {
-        int term = termAt(node);
-        if ((terms.callsOf(term) & ~docket.acceptedOnes) != 0) {
-            return NONE;
-        }
-        int mark = terms.mark();
-        boolean isOfData = terms.kindOf(typing.formIn(nothing, term)) == DATA;
-        terms.release(mark);
-        return isOfData ? machine.valueOf(term, bySplits) : NONE;
     }
 
     /**
@@ -791,6 +770,8 @@ public final class TelescopeCourt {
         private final int[] partCounts = new int[MOST_CONSTRUCTORS];
         private final int[] parts = new int[MOST_CONSTRUCTORS * MOST_PARTS];
         private final int[] types = new int[MOST_CONSTRUCTORS];
+        private final int[] ranks = new int[MOST_CONSTRUCTORS];
+        private final int[] constructorsOfData = new int[MOST_DATA];
         private int dataCount;
         private int constructorCount;
 
@@ -834,6 +815,8 @@ public final class TelescopeCourt {
                 type = terms.pair(FUNCTIONS, terms.leaf(DATA, parts[now * MOST_PARTS + i]), type);
             }
             types[now] = type;
+            ranks[now] = constructorsOfData[data];
+            constructorsOfData[data]++;
             return now;
         }
 
@@ -856,21 +839,11 @@ public final class TelescopeCourt {
 
         /** How many constructors of its data type have a lower number. */
         int rankOf(int constructor) {
-            return hasConstructor(constructor) ? constructorsBelow(constructor, owners[constructor]) : NONE;
+            return constructor >= 0 && constructor < constructorCount ? ranks[constructor] : NONE;
         }
 
         int constructorsOf(int data) {
-            return constructorsBelow(constructorCount, data);
-        }
-
-        private int constructorsBelow(int end, int data) {
-            int found = 0;
-            for (int i = 0; i < end && i < owners.length; i++) {
-                if (owners[i] == data) {
-                    found++;
-                }
-            }
-            return found;
+            return hasData(data) ? constructorsOfData[data] : 0;
         }
     }
 
@@ -931,7 +904,7 @@ public final class TelescopeCourt {
         private final Terms terms;
         private final Forms forms;
         private final Signature signature;
-        private final Function[] functions = new Function[MOST_FUNCTIONS];
+        private final Function[] declared = new Function[MOST_FUNCTIONS];
         private final Goal[] goals = new Goal[MOST_GOALS];
         private int functionCount;
         private int goalCount;
@@ -944,7 +917,7 @@ public final class TelescopeCourt {
         }
 
         Function function(int number) {
-            return number >= 0 && number < functionCount ? functions[number] : null;
+            return number >= 0 && number < functionCount ? declared[number] : null;
         }
 
         Goal goal(int number) {
@@ -956,7 +929,7 @@ public final class TelescopeCourt {
             return found == null ? NONE : found.type;
         }
 
-        boolean isAccepted(int function) {
+        boolean hasAccepted(int function) {
             return (acceptedOnes >> function & 1) != 0;
         }
 
@@ -980,7 +953,7 @@ public final class TelescopeCourt {
                 patterns[i] = terms.leaf(VARIABLE, arity - 1 - i);
                 result = terms.secondOf(result);
             }
-            functions[functionCount] = new Function(type, arity, goalCount);
+            declared[functionCount] = new Function(type, arity, goalCount);
             goals[goalCount] = new Goal(functionCount, context, result, patterns);
             goalCount++;
             functionCount++;
@@ -1043,18 +1016,27 @@ public final class TelescopeCourt {
                 value = terms.pair(APPLICATION, value, terms.leaf(VARIABLE, many - 1 - i));
             }
             for (int i = place + 1; i < wasMany; i++) {
-                int type = forms.formOf(withValue(goal.context.typeAt(i), value, many, i - 1 - place));
+                int type = formWithValue(goal.context.typeAt(i), value, many, i - 1 - place);
                 if (type == NONE) {
                     return null;
                 }
                 context.push(type);
             }
-            int type = forms.formOf(withValue(goal.type, value, many, wasMany - 1 - place));
+            int type = formWithValue(goal.type, value, many, wasMany - 1 - place);
+            if (type == NONE) {
+                return null;
+            }
             int[] patterns = new int[goal.patterns.length];
             for (int i = 0; i < patterns.length; i++) {
-                patterns[i] = withValue(goal.patterns[i], value, many, wasMany - 1 - place);
+                int mark = terms.mark();
+                patterns[i] = terms.keep(mark, withValue(goal.patterns[i], value, many, wasMany - 1 - place));
             }
-            return type == NONE ? null : new Goal(goal.function, context, type, patterns);
+            return new Goal(goal.function, context, type, patterns);
+        }
+
+        private int formWithValue(int term, int value, int many, int index) {
+            int mark = terms.mark();
+            return terms.keep(mark, forms.formOf(withValue(term, value, many, index)));
         }
 
         /** The term with the value for the variable of this index, where so many variables stand in its place. */
@@ -1078,7 +1060,8 @@ public final class TelescopeCourt {
         int openOnesOf(int function) {
             int found = 0;
             for (int i = 0; i < goalCount; i++) {
-                if (goals[i].function == function && goals[i].state == OPEN) {
+                Goal one = goal(i);
+                if (one != null && one.function == function && one.state == OPEN) {
                     found++;
                 }
             }
@@ -1088,7 +1071,8 @@ public final class TelescopeCourt {
         int goalsThatAre(char state) {
             int found = 0;
             for (int i = 0; i < goalCount; i++) {
-                if (goals[i].state == state) {
+                Goal one = goal(i);
+                if (one != null && one.state == state) {
                     found++;
                 }
             }
@@ -1098,16 +1082,17 @@ public final class TelescopeCourt {
         int sizeOfRightSides() {
             int sum = 0;
             for (int i = 0; i < goalCount; i++) {
-                if (goals[i].state == FILLED) {
-                    sum += terms.sizeOf(goals[i].right);
+                Goal one = goal(i);
+                if (one != null && one.state == FILLED) {
+                    sum += terms.sizeOf(one.right);
                 }
             }
             return sum;
         }
 
         boolean anAcceptedOneIsOpen() {
-            for (int i = 0; i < goalCount; i++) {
-                if (goals[i].state == OPEN && isAccepted(goals[i].function)) {
+            for (int i = 0; i < functionCount; i++) {
+                if (hasAccepted(i) && openOnesOf(i) > 0) {
                     return true;
                 }
             }
@@ -1118,7 +1103,7 @@ public final class TelescopeCourt {
         boolean twoAreAlike() {
             for (int i = 0; i < goalCount; i++) {
                 for (int j = i + 1; j < goalCount; j++) {
-                    if (areAlike(goals[i], goals[j])) {
+                    if (areAlike(goal(i), goal(j))) {
                         return true;
                     }
                 }
@@ -1127,7 +1112,10 @@ public final class TelescopeCourt {
         }
 
         private boolean areAlike(Goal one, Goal two) {
-            if (one.function != two.function || one.state == SPLIT || two.state == SPLIT) {
+            if (one == null || two == null || one.function != two.function) {
+                return false;
+            }
+            if (one.state == SPLIT || two.state == SPLIT) {
                 return false;
             }
             for (int i = 0; i < one.patterns.length && i < two.patterns.length; i++) {
@@ -1145,6 +1133,7 @@ public final class TelescopeCourt {
         private final Forms forms;
         private final Signature signature;
         private final Docket docket;
+        private final Telescope nothing = new Telescope(0);
         private final Telescope around = new Telescope(MOST_IN_CONTEXT + MOST_SIZE_OF_NODE);
 
         Typing(Terms terms, Forms forms, Signature signature, Docket docket) {
@@ -1154,10 +1143,37 @@ public final class TelescopeCourt {
             this.docket = docket;
         }
 
-        /** The normal form of the type of a term in a context, or none. */
-        int formIn(Telescope context, int term) {
+        /** The level of a closed term, or none. */
+        int levelOf(int term) {
+            int mark = terms.mark();
+            around.become(nothing);
+            int form = forms.formOf(find(this, term));
+            int found = terms.kindOf(form) == UNIVERSE ? terms.firstOf(form) : NONE;
+            terms.release(mark);
+            return found;
+        }
+
+        boolean isOfData(int term) {
+            int mark = terms.mark();
+            around.become(nothing);
+            int kind = terms.kindOf(forms.formOf(find(this, term)));
+            terms.release(mark);
+            return kind == DATA;
+        }
+
+        /** Whether the term has this type, which is a normal form, in the context. */
+        boolean fits(Telescope context, int term, int type) {
             int mark = terms.mark();
             around.become(context);
+            boolean fits = Moves.same(terms, forms.formOf(find(this, term)), type);
+            terms.release(mark);
+            return fits;
+        }
+
+        /** The normal form of the type of a closed term, or none. */
+        int formOf(int term) {
+            int mark = terms.mark();
+            around.become(nothing);
             return terms.keep(mark, forms.formOf(find(this, term)));
         }
 
@@ -1167,47 +1183,67 @@ public final class TelescopeCourt {
          */
         private static int find(Typing in, int term) {
             Terms terms = in.terms;
-            int kind = terms.kindOf(term);
-            int one = terms.firstOf(term);
-            if (kind == UNIVERSE) {
-                return one < MOST_LEVEL ? terms.leaf(UNIVERSE, one + 1) : NONE;
+            int parameter = terms.firstOf(term);
+            switch (terms.kindOf(term)) {
+                case UNIVERSE:
+                    return parameter < MOST_LEVEL ? terms.leaf(UNIVERSE, parameter + 1) : NONE;
+                case VARIABLE:
+                    return Moves.lift(terms, in.around.typeAt(in.around.many - 1 - parameter), parameter + 1, 0);
+                case DATA:
+                    return terms.leaf(UNIVERSE, 0);
+                case CONSTRUCTOR:
+                    return in.signature.typeOfConstructor(parameter);
+                case FUNCTION:
+                    return in.docket.typeOfFunction(parameter);
+                case FUNCTIONS:
+                    return ofFunctions(in, term);
+                case LAMBDA:
+                    return ofLambda(in, term);
+                case APPLICATION:
+                    return ofApplication(in, term);
+                default:
+                    return NONE;
             }
-            if (kind == VARIABLE) {
-                return Moves.lift(terms, in.around.typeAt(in.around.many - 1 - one), one + 1, 0);
-            }
-            if (kind == DATA) {
-                return terms.leaf(UNIVERSE, 0);
-            }
-            if (kind == CONSTRUCTOR) {
-                return in.signature.typeOfConstructor(one);
-            }
-            if (kind == FUNCTION) {
-                return in.docket.typeOfFunction(one);
-            }
-            int two = terms.secondOf(term);
-            if (kind == APPLICATION) {
-                int type = in.forms.formOf(find(in, one));
-                int mark = terms.mark();
-                boolean fits = terms.kindOf(type) == FUNCTIONS
-                        && Moves.same(terms, in.forms.formOf(find(in, two)), terms.firstOf(type));
-                terms.release(mark);
-                return fits ? Moves.put(terms, terms.secondOf(type), two, 0) : NONE;
-            }
-            if (kind != LAMBDA && kind != FUNCTIONS) {
+        }
+
+        private static int ofFunctions(Typing in, int term) {
+            Terms terms = in.terms;
+            int domain = terms.firstOf(term);
+            int above = in.forms.formOf(find(in, domain));
+            if (terms.kindOf(above) != UNIVERSE || !in.around.push(domain)) {
                 return NONE;
             }
-            int above = in.forms.formOf(find(in, one));
-            if (terms.kindOf(above) != UNIVERSE || !in.around.push(one)) {
-                return NONE;
-            }
-            int below = find(in, two);
+            int below = in.forms.formOf(find(in, terms.secondOf(term)));
             in.around.pop();
-            if (kind == LAMBDA) {
-                return terms.pair(FUNCTIONS, one, below);
+            if (terms.kindOf(below) != UNIVERSE) {
+                return NONE;
             }
-            below = in.forms.formOf(below);
-            return terms.kindOf(below) != UNIVERSE ? NONE
-                    : terms.leaf(UNIVERSE, Math.max(terms.firstOf(above), terms.firstOf(below)));
+            return terms.leaf(UNIVERSE, Math.max(terms.firstOf(above), terms.firstOf(below)));
+        }
+
+        private static int ofLambda(Typing in, int term) {
+            Terms terms = in.terms;
+            int domain = terms.firstOf(term);
+            int above = in.forms.formOf(find(in, domain));
+            if (terms.kindOf(above) != UNIVERSE || !in.around.push(domain)) {
+                return NONE;
+            }
+            int below = find(in, terms.secondOf(term));
+            in.around.pop();
+            return terms.pair(FUNCTIONS, domain, below);
+        }
+
+        private static int ofApplication(Typing in, int term) {
+            Terms terms = in.terms;
+            int argument = terms.secondOf(term);
+            int type = in.forms.formOf(find(in, terms.firstOf(term)));
+            if (terms.kindOf(type) != FUNCTIONS) {
+                return NONE;
+            }
+            int mark = terms.mark();
+            boolean fits = Moves.same(terms, in.forms.formOf(find(in, argument)), terms.firstOf(type));
+            terms.release(mark);
+            return fits ? Moves.put(terms, terms.secondOf(type), argument, 0) : NONE;
         }
     }
 
@@ -1303,7 +1339,7 @@ public final class TelescopeCourt {
         /** Each graph of many calls is one of all but the last of them with the one of the last behind it. */
         boolean comeToAnEnd() {
             int ofOneCall = many;
-            for (int i = 0; i < many && !tooMany; i++) {
+            for (int i = 0; i < MOST_GRAPHS && i < many && !tooMany; i++) {
                 for (int j = 0; j < ofOneCall && !tooMany; j++) {
                     add(behind(found[i], found[j]));
                 }
@@ -1368,8 +1404,11 @@ public final class TelescopeCourt {
             this.docket = docket;
         }
 
-        /** The value, or none if the run fails; the steps are those that were taken. */
+        /** The value, or none if the term cannot be run or the run fails; the steps are those that were taken. */
         int valueOf(int term, boolean alongSplits) {
+            if ((terms.callsOf(term) & ~docket.acceptedOnes) != 0) {
+                return NONE;
+            }
             bySplits = alongSplits;
             depth = 0;
             taken = 0;
