@@ -140,6 +140,28 @@ public final class AcceptTest {
         Due.is("one argument more", court.accept(same), 1);
     }
 
+    /** A function that gives types calls itself in the parts of a type. */
+    private static void withinTypes() {
+        Bench bench = Bench.withNumbers();
+        TelescopeCourt court = bench.court;
+        int d = bench.ofNumbers;
+        court.declare(court.functions(d, court.universe(0)));
+        int own = court.functionNode(0);
+        int x = court.variable(0);
+        int y = court.variable(1);
+        int larger = court.apply(own, court.apply(court.constructorNode(bench.next), x));
+        court.split(0, 0);
+        court.fill(1, d);
+        court.fill(2, court.functions(larger, d));
+        Due.thrown("a domain with no smaller call", CANNOT, () -> court.accept(0));
+        court.reopen(2);
+        court.fill(2, court.functions(d, court.apply(own, x)));
+        Due.thrown("the variable of the codomain", CANNOT, () -> court.accept(0));
+        court.reopen(2);
+        court.fill(2, court.functions(court.apply(own, x), court.apply(own, y)));
+        Due.is("both are smaller", court.accept(0), 1);
+    }
+
     // Trees of a tip, of one tree in two ways, and of two trees; for graphs that come to the limit.
     private static Bench withTrees() {
         Bench bench = new Bench();
@@ -213,6 +235,7 @@ public final class AcceptTest {
         oneArgument();
         graphs();
         fewerArguments();
+        withinTypes();
         manyGraphs();
         ackermann();
         Due.end();

@@ -157,6 +157,41 @@ public final class GoalsTest {
         Due.thrown("no goal was made", NO_GOAL, () -> court.goalState(5));
     }
 
+    /** The last one of two constructors makes the context too large, by one variable. */
+    private static void thirteenVariables() {
+        Bench bench = new Bench();
+        TelescopeCourt court = bench.court;
+        int data = court.addData();
+        court.addConstructor(data, 1, data, 0, 0);
+        court.addConstructor(data, 2, data, data, 0);
+        int d = court.dataNode(data);
+        court.declare(bench.functions(d, d, d, d, d));
+        int last = 0;
+        for (int i = 0; i < 8; i++) {
+            Due.is("split", court.split(last, 0), 2);
+            last = last + 2;
+            Due.is("context", court.contextSize(last), 5 + i);
+        }
+        int full = last;
+        Due.thrown("thirteen variables", NOT_NOW, () -> court.split(full, 0));
+        Due.is("it is open as it was", court.goalState(full), 'o');
+    }
+
+    /** A type that holds what stands in front of it below a variable of its own. */
+    private static void fillingBelowBinders() {
+        Bench bench = new Bench();
+        TelescopeCourt court = bench.court;
+        int u0 = court.universe(0);
+        int x = court.variable(0);
+        int y = court.variable(1);
+        int z = court.variable(2);
+        // (t : u0) (p : t -> u0) (h : (x : t) p x) (a : t) p a
+        int all = court.functions(y, court.apply(y, x));
+        court.declare(bench.functions(u0, court.functions(x, u0), all, z, court.apply(z, x)));
+        Due.is("of a variable that is applied", court.fill(0, court.apply(y, x)), 0);
+        Due.is("and found again", court.isSound(), true);
+    }
+
     private static void largeTypes() {
         Bench bench = new Bench();
         TelescopeCourt court = bench.court;
@@ -327,7 +362,9 @@ public final class GoalsTest {
         splittingTypes();
         splittingIntoNothing();
         largeContexts();
+        thirteenVariables();
         largeTypes();
+        fillingBelowBinders();
         filling();
         fillingByNormalForm();
         finding();

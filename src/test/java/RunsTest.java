@@ -178,6 +178,53 @@ public final class RunsTest {
         t.comes("a fork of a fork", t.f(pick, t.bench.number(0), deep, t.bench.number(0)), t.bench.number(1), 2);
     }
 
+    private int declareOfPacks(int packs, int goal, int variable, int... places) {
+        int function = court.declare(bench.functions(packs, packs, packs, packs, bench.ofNumbers));
+        for (int i = 0; i < places.length; i++) {
+            Due.is("split", court.split(goal + i, places[i]), 1);
+        }
+        court.fill(goal + places.length, v(variable));
+        court.accept(function);
+        return function;
+    }
+
+    /** Goals with twelve variables in their context. */
+    private static void manyVariables() {
+        RunsTest t = withNumbers();
+        int data = t.court.addData();
+        int pack = t.court.addConstructor(data, 3, t.bench.numbers, t.bench.numbers, t.bench.numbers);
+        int packs = t.court.dataNode(data);
+        int from = t.court.declare(t.court.functions(t.bench.ofNumbers, packs));
+        int more = t.c(t.bench.next, t.v(0));
+        t.court.fill(0, t.c(pack, t.v(0), more, t.c(t.bench.next, more)));
+        t.court.accept(from);
+        int[] four = new int[4];
+        for (int i = 0; i < 4; i++) {
+            four[i] = t.f(from, t.bench.number(i));
+        }
+        int first = t.declareOfPacks(packs, 1, 11, 3, 2, 1, 0);
+        int sixth = t.declareOfPacks(packs, 6, 6, 0, 3, 6, 9);
+        int eighth = t.declareOfPacks(packs, 11, 4, 1, 0, 6, 9);
+        int last = t.declareOfPacks(packs, 16, 0, 3, 2, 1, 0);
+        t.comes("the first of twelve", t.f(first, four), t.bench.number(0), 5);
+        t.comes("the sixth of twelve", t.f(sixth, four), t.bench.number(3), 5);
+        t.comes("the eighth of twelve", t.f(eighth, four), t.bench.number(3), 5);
+        t.comes("the last of twelve", t.f(last, four), t.bench.number(5), 5);
+    }
+
+    /** A right side whose lambda has the values of the context in its body. */
+    private static void lambdasOfContexts() {
+        RunsTest t = withNumbers();
+        int d = t.bench.ofNumbers;
+        int add = t.declareAddition();
+        int function = t.bench.declareOverNumbers(2);
+        int body = t.f(add, t.v(2), t.f(add, t.v(0), t.v(1)));
+        t.court.fill(3, t.court.apply(t.court.lambda(d, body), t.c(t.bench.next, t.v(1))));
+        t.court.accept(function);
+        // 1 + ((1 + 1) + 2): the call and the lambda, three steps for the inner sum and two for the outer one.
+        t.comes("a lambda of values", t.f(function, t.bench.number(1), t.bench.number(2)), t.bench.number(5), 7);
+    }
+
     private static void manySteps() {
         RunsTest t = withNumbers();
         int copy = t.bench.declareCopy(0);
@@ -281,6 +328,8 @@ public final class RunsTest {
         functions();
         functionsOverTypes();
         patterns();
+        manyVariables();
+        lambdasOfContexts();
         manySteps();
         largeValues();
         largeCalls();

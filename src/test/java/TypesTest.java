@@ -243,6 +243,28 @@ public final class TypesTest {
         Due.is("another data type", court.isOf(bench.number(0), court.dataNode(court.addData())), false);
     }
 
+    /** Two types of one size and one number are two types for all that. */
+    private static void sameNumbers() {
+        Bench bench = new Bench();
+        TelescopeCourt court = bench.court;
+        int[] data = new int[4];
+        for (int i = 0; i < data.length; i++) {
+            data[i] = court.dataNode(court.addData());
+        }
+        int one = bench.functions(data[2], data[0], court.universe(1));
+        int two = court.functions(court.functions(court.universe(0), data[0]), data[3]);
+        Due.is("one number", court.number(one), court.number(two));
+        court.declare(one);
+        court.declare(two);
+        Due.is("the one is of the one", court.isOf(court.functionNode(0), one), true);
+        Due.is("the one is not of the other", court.isOf(court.functionNode(0), two), false);
+        Due.is("the other is not of the one", court.isOf(court.functionNode(1), one), false);
+        int toData = court.lambda(one, data[0]);
+        Due.is("an argument of the one", court.typeOf(court.apply(toData, court.functionNode(0))), 3);
+        int other = court.apply(toData, court.functionNode(1));
+        Due.thrown("an argument of the other", NONE, () -> court.typeOf(other));
+    }
+
     public static void main(String[] args) {
         nodesThatAreNot();
         sizesAndNumbers();
@@ -253,6 +275,7 @@ public final class TypesTest {
         dependentTypes();
         levels();
         whatIsOf();
+        sameNumbers();
         Due.end();
     }
 }
