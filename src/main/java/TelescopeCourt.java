@@ -560,8 +560,8 @@ public final class TelescopeCourt {
             moved[term] = term;
             for (int i = term; i >= mark; i--) {
                 if (moved[i] != NONE && kind[i] >= FUNCTIONS) {
-                    moved[first[i]] = i;
-                    moved[second[i]] = i;
+                    keepPart(first[i]);
+                    keepPart(second[i]);
                 }
             }
             many = mark;
@@ -573,13 +573,23 @@ public final class TelescopeCourt {
             return many - 1;
         }
 
+        private void keepPart(int part) {
+            if (part >= 0 && part < ROOM) {
+                moved[part] = part;
+            }
+        }
+
+        private int placeNow(int part, int mark) {
+            return part >= mark && part < ROOM ? moved[part] : part;
+        }
+
         private void slide(int from, int mark) {
             int to = many;
             many++;
             moved[from] = to;
             boolean isPair = kind[from] >= FUNCTIONS;
-            first[to] = isPair && first[from] >= mark ? moved[first[from]] : first[from];
-            second[to] = isPair && second[from] >= mark ? moved[second[from]] : second[from];
+            first[to] = isPair ? placeNow(first[from], mark) : first[from];
+            second[to] = isPair ? placeNow(second[from], mark) : second[from];
             kind[to] = kind[from];
             sizes[to] = sizes[from];
             numbers[to] = numbers[from];

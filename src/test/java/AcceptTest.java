@@ -109,6 +109,9 @@ public final class AcceptTest {
         Due.is("one smaller, places change", accepting(2, row(1), row(1, 0)), 3);
         Due.thrown("the places change", CANNOT, () -> accepting(2, row(), row(1, 0)));
         Due.thrown("one is lost", CANNOT, () -> accepting(2, row(0), row(1, 1)));
+        Due.thrown("three of four are lost", CANNOT, () -> accepting(4, row(), row(1, 1, 1, 1)));
+        Due.thrown("the last one is all of them", CANNOT, () -> accepting(4, row(0, 1, 2), row(3, 3, 3, 3)));
+        Due.is("the last one is smaller", accepting(4, row(3), row(3, 3, 3, 3)), 1);
         Due.is("in a circle", accepting(3, row(0, 1, 2), row(1, 2, 0)), 3);
         // One of them is smaller, two, all three; then the first two rows again, with all of them smaller.
         Due.is("in a circle, one smaller", accepting(3, row(0), row(1, 2, 0)), 5);
@@ -138,6 +141,60 @@ public final class AcceptTest {
         int call = bench.apply(court.functionNode(same), court.variable(2), next, court.lambda(d, x), bench.number(1));
         court.fill(5, court.apply(court.lambda(d, y), call));
         Due.is("one argument more", court.accept(same), 1);
+    }
+
+    /** What is called with more than all arguments: of what stands behind them, nothing is in a graph. */
+    private static void moreArguments() {
+        Bench bench = new Bench();
+        TelescopeCourt court = bench.court;
+        court.addData();
+        court.addConstructor(0, 1, 0, 0, 0);
+        court.addConstructor(0, 1, 0, 0, 0);
+        // (x : d) (y : d) (t : u0) (z : t) t, called with the type of functions from d to t as t.
+        court.declare(bench.term("{d0 d0 u0 v0 v1}"));
+        court.split(0, 0);
+        court.fill(1, bench.term("(f0 v3 v2 {d0 v2} [d0 v1] v3)"));
+        court.fill(2, bench.term("(f0 v3 v2 {d0 v2} [d0 v1] v2)"));
+        Due.is("two calls, one graph", court.accept(0), 1);
+    }
+
+    /** A constructor of the number that a smaller variable has as its index is not this variable. */
+    private static void leavesThatAreNoVariables() {
+        Bench bench = Bench.withNumbers();
+        TelescopeCourt court = bench.court;
+        bench.declareOverNumbers(1);
+        court.split(0, 0);
+        court.fill(1, bench.term("c0"));
+        court.fill(2, bench.term("(f0 c0)"));
+        Due.thrown("a constructor", CANNOT, () -> court.accept(0));
+        court.reopen(2);
+        court.fill(2, bench.term("([{d0 d0} v1] f0)"));
+        Due.thrown("itself alone", CANNOT, () -> court.accept(0));
+        court.reopen(2);
+        court.fill(2, bench.term("(f0 v0)"));
+        Due.is("the variable", court.accept(0), 1);
+    }
+
+    /** A function of too many graphs is refused; the next one is not. */
+    private static void behindTooMany() {
+        Bench beyond = withTrees();
+        TelescopeCourt court = beyond.court;
+        court.split(0, 3);
+        court.split(3, 1);
+        court.split(6, 2);
+        for (int i = 0; i < 2; i++) {
+            Due.thrown("too many", CANNOT, () -> acceptWith(beyond, 2, call(beyond, 1, 0, 2, 3),
+                    call(beyond, 0, 1, 0, 3), 10, call(beyond, 2, 1, 2, 3)));
+            court.declare(beyond.term("{d0 d0}"));
+            int goal = 13 + i;
+            court.auto(goal);
+            Due.is("the next one", court.accept(1 + i), 0);
+            court.reopen(2);
+            court.reopen(10);
+        }
+        court.fill(2, beyond.term("(f0 v1 v0 v0 v0)"));
+        court.fill(10, beyond.term("c0"));
+        Due.is("the first one with one call, and two of it", court.accept(0), 2);
     }
 
     /** A function that gives types calls itself in the parts of a type. */
@@ -235,8 +292,11 @@ public final class AcceptTest {
         oneArgument();
         graphs();
         fewerArguments();
+        moreArguments();
+        leavesThatAreNoVariables();
         withinTypes();
         manyGraphs();
+        behindTooMany();
         ackermann();
         Due.end();
     }
