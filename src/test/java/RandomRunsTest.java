@@ -542,6 +542,58 @@ public final class RandomRunsTest {
         }
     }
 
+    /** One function of trees, whose goals call it with variables that are smaller, in ever other places. */
+    private void graphsThatEnd() {
+        call("addData");
+        call("addConstructor", 0, 0, 0, 0, 0);
+        call("addConstructor", 0, 1, 0, 0, 0);
+        call("addConstructor", 0, 2, 0, 0, 0);
+        int arity = 2 + below(3);
+        declareOver(0, arity);
+        int goal = 0;
+        for (int i = 0; i < arity; i++) {
+            int place = model.goals.get(goal).context.size() - arity + i;
+            if (!oneIn(5) && call("split", goal, Math.max(place, 0)) > 0) {
+                goal = model.goals.size() - 1 - below(2);
+            }
+        }
+        int clauses = 1 + below(3);
+        while (true) {
+            int filled = 0;
+            for (int i = model.goals.size() - 1; i >= 0; i--) {
+                if (model.goals.get(i).state == 'o') {
+                    Model.Term tip = leaf(Model.Kind.CONSTRUCTOR, 0);
+                    int variables = model.goals.get(i).context.size();
+                    boolean calls = filled < clauses && variables > 0;
+                    call("fill", i, lay(calls ? smallerCalls(arity, variables) : tip));
+                    filled++;
+                }
+            }
+            if (call("accept", 0) >= 0) {
+                break;
+            }
+            for (int i = 0; i < clauses; i++) {
+                call("reopen", model.goals.size() - 1 - i);
+            }
+        }
+        while (true) {
+            act();
+        }
+    }
+
+    private Model.Term smallerCalls(int arity, int variables) {
+        Model.Term made = null;
+        for (int i = 1 + below(3); i > 0; i--) {
+            Model.Term one = leaf(Model.Kind.FUNCTION, 0);
+            for (int j = 0; j < arity; j++) {
+                one = apply(one, oneIn(12) ? leaf(Model.Kind.CONSTRUCTOR, 0) : variable(below(variables)));
+            }
+            Model.Term both = made == null ? one : apply(leaf(Model.Kind.CONSTRUCTOR, 2), made, one);
+            made = both.size() > 30 ? made : both;
+        }
+        return made;
+    }
+
     /** Functions of numbers and of trees that make much of little. */
     private void longRuns() {
         call("addData");
@@ -621,10 +673,11 @@ public final class RandomRunsTest {
 
     private boolean comesOut(int seed) {
         try {
-            switch (seed % 6) {
+            switch (seed % 7) {
                 case 0: normals(); break;
                 case 1: graphs(); break;
                 case 2: longRuns(); break;
+                case 3: graphsThatEnd(); break;
                 default: anything();
             }
         } catch (Over over) {
